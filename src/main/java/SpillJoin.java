@@ -858,7 +858,7 @@ public final class SpillJoin {
 
         private void goByBlocks(int side, int build, int probe) {
             int rest = build;
-            for (int turn = 0; turn < MOST_ROWS && rest != 0 && !output.broken; turn++) {
+            for (int done = 0; done < MOST_ROWS && rest != 0 && !output.broken; done++) {
                 int block = firstOf(rest, tables.memory);
                 rest &= ~block;
                 noteHeld(block);

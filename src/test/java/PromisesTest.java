@@ -391,8 +391,13 @@ public final class PromisesTest {
         due(16, "ledger() of run(6)", ledgers(x), "6 0 10 2 0 0 1 0 1 2");
         x.be(3);
         runAndTell(x, "blocks, semi", "0:- 1:- 2:-", "3 0 10 2 0 0 1 0 1 2", "o0/1 s0/1");
+        due(13, "run(250) of a semi join once more", x.run(250), 3);
         x.be(2);
         runAndTell(x, "blocks, anti", "", "0 0 10 2 0 0 1 0 1 2", "o0/1 s0/1");
+        SpillJoin most = of("1j;aaaaaaaaaaaaaa;aaaaaaaaaaaaaa");
+        due(13, "14 blocks: run(250)", most.run(250), 196);
+        due(14, "14 blocks: out(195, 1)", most.out(195, 1), 13);
+        due(16, "14 blocks: ledger()", ledgers(most), "196 0 196 1 0 0 1 0 0 2");
         runAndTell(of("1f;bbb;aa"), "blocks without partners", "0:- 1:- 2:- -:0 -:1", "5 0 6 1 0 0 1 0 0 2", "o0/1 s0/1");
     }
 
@@ -516,26 +521,13 @@ public final class PromisesTest {
         }
     }
 
-    /** The next seed, and the same tables spelled out and run: drawn() must tell the same. */
     private static void drawn() {
-        long seed = 5;
-        StringBuilder sides = new StringBuilder();
-        for (int n = 0; n < 16; n++) {
-            seed = Math.floorMod(1103515245L * seed + 12345L, 2147483648L);
-            long draw = Math.floorDiv(seed, 65536L) % 17;
-            sides.append(n == 8 ? ";" : "").append(draw == 16 ? '-' : (char) ('a' + draw));
-        }
-        for (int kind = 0; kind < 5; kind++) {
-            SpillJoin spelled = of("2" + "jlasf".charAt(kind) + ";" + sides);
-            SpillJoin x = of("2" + "jlasf".charAt(kind) + ";aa;a");
-            due(21, "drawn(1, 5, 0)", x.drawn(1, 5, 0), spelled.run(250));
-            due(21, "drawn(1, 5, 1)", x.drawn(1, 5, 1), spelled.ledger(1));
+        for (int seed = 1; seed < 60; seed++) {
+            drawnOnce(seed);
         }
         SpillJoin x = of("1f;aabb;abab");
         x.run(3);
-        still(21, x, "drawn(1, 5, 2)", () -> x.drawn(1, 5, 2), seed);
-        int one = x.drawn(1, 5, 0) + x.drawn(1, (int) seed, 0);
-        still(21, x, "drawn(2, 5, 0)", () -> x.drawn(2, 5, 0), one);
+        drawnTwice(x, 5);
         still(21, x, "drawn(1, 2147483647, 2)", () -> x.drawn(1, HIGHEST, 2), 94299887);
         due(21, "drawn(10, 0, 2) is from 0 to 2 to the 31", x.drawn(10, 0, 2) >= 0 ? 1 : 0, 1);
         int[][] outside = {{0, 1, 0}, {11, 1, 0}, {-1, 1, 0}, {1, -1, 0}, {1, LOWEST, 0}, {1, 1, 3}, {1, 1, -1}, {HIGHEST, HIGHEST, HIGHEST}};
@@ -545,6 +537,33 @@ public final class PromisesTest {
             still(21, none, "drawn(" + o[0] + ", " + o[1] + ", " + o[2] + ") without tables", () -> none.drawn(o[0], o[1], o[2]), OUTSIDE);
         }
         still(21, none, "drawn(1, 0, 2) without tables", () -> none.drawn(1, 0, 2), STATE);
+    }
+
+    private static void drawnTwice(SpillJoin x, int seed) {
+        int then = x.drawn(1, seed, 2);
+        int cameOut = x.drawn(1, seed, 0) + x.drawn(1, then, 0);
+        int written = x.drawn(1, seed, 1) + x.drawn(1, then, 1);
+        still(21, x, "drawn(2, 5, 0)", () -> x.drawn(2, seed, 0), cameOut);
+        still(21, x, "drawn(2, 5, 1)", () -> x.drawn(2, seed, 1), written);
+        still(21, x, "drawn(2, 5, 2)", () -> x.drawn(2, seed, 2), x.drawn(1, then, 2));
+    }
+
+    /** The rows drawn by hand, spelled out and run: drawn() must tell the same. */
+    private static void drawnOnce(int from) {
+        long seed = from;
+        StringBuilder sides = new StringBuilder();
+        for (int n = 0; n < 16; n++) {
+            seed = Math.floorMod(1103515245L * seed + 12345L, 2147483648L);
+            long draw = Math.floorDiv(seed, 65536L) % 17;
+            sides.append(n == 8 ? ";" : "").append(draw == 16 ? '-' : (char) ('a' + draw));
+        }
+        for (int kind = 0; kind < 5; kind++) {
+            SpillJoin spelled = of("2" + "jlasf".charAt(kind) + ";" + sides);
+            SpillJoin x = of("2" + "jlasf".charAt(kind) + ";aa;a");
+            due(21, "drawn(1, " + from + ", 0)", x.drawn(1, from, 0), spelled.run(250));
+            due(21, "drawn(1, " + from + ", 1)", x.drawn(1, from, 1), spelled.ledger(1));
+            due(21, "drawn(1, " + from + ", 2)", x.drawn(1, from, 2), seed);
+        }
     }
 
     private static void imageAndRestore() {
@@ -604,6 +623,8 @@ public final class PromisesTest {
             int asked = what;
             still(24, x, "count(" + what + ")", () -> x.count(asked), counts[what]);
         }
+        due(24, "count(5) of unlike sides", of("1j;a;aba").count(5), 2);
+        due(24, "count(4) of unlike sides", of("1j;-;ab-a").count(4), 2);
         int[] whats = {10, -1, LOWEST, HIGHEST};
         for (int what : whats) {
             still(24, x, "count(" + what + ")", () -> x.count(what), OUTSIDE);
