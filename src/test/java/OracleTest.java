@@ -477,19 +477,21 @@ public final class OracleTest {
         Random random = new Random(seed);
         SpillJoin x = new SpillJoin();
         Model m = new Model();
-        for (int call = 0; call < 440 && wrong < 20; call++) {
-            if (random.nextInt(60) == 0 || call == 10) {
+        // What is told behind 512 calls is free: a text has up to 32 letters.
+        for (int calls = 0; calls + 40 <= 512 && wrong < 20; calls += 2) {
+            if (random.nextInt(60) == 0 || calls == 20) {
                 same("blank", x.blank(), m.blank());
                 for (char letter : text(random).toCharArray()) {
                     same("letter", x.letter(letter), m.letter(letter));
-                    call++;
+                    calls++;
                 }
                 same("fault", x.fault(), m.fault());
                 same("tables", x.tables(), m.tables());
+                calls += 3;
             }
             boolean fine = step(x, m, random);
             fine &= same("digest", x.digest(), m.digest());
-            if (!fine) System.out.println("  in the calls by " + seed + ", call " + call);
+            if (!fine) System.out.println("  in the calls by " + seed + ", call " + calls);
         }
     }
 
@@ -505,7 +507,7 @@ public final class OracleTest {
         same("tables", x.tables(), m.tables());
         for (int kind = 0; kind < 5; kind++) {
             same("be", x.be(kind), m.be(kind));
-            for (int limit = 0; limit <= 250; limit = limit < 40 ? limit + 1 : limit + 30) {
+            for (int limit = 0; limit <= 250; limit = limit < 34 ? limit + 1 : limit + 36) {
                 boolean fine = same("run " + limit, x.run(limit), m.run(limit));
                 fine &= same("digest", x.digest(), m.digest());
                 if (!fine) System.out.println("  in the run of the tables by " + seed + ", kind " + kind);
@@ -516,7 +518,7 @@ public final class OracleTest {
     }
 
     public static void main(String[] args) {
-        for (int seed = 0; seed < 300 && wrong < 20; seed++) randomCalls(seed);
+        for (int seed = 0; seed < 600 && wrong < 20; seed++) randomCalls(seed);
         for (int seed = 1000; seed < 2500 && wrong < 20; seed++) allOfARun(seed);
         if (broken == 0 || deepest < 4) {
             wrong++;
