@@ -1,7 +1,7 @@
 import java.util.ArrayDeque;
 import java.util.Deque;
 
-/** Promises 13 to 17, sentence by sentence, with what the document says of a run: answers worked out by hand. */
+/** Promises 13 to 17, sentence by sentence, with what the document says of a run: answers worked out from it. */
 public final class RunTest extends Check {
     public static void main(String[] args) {
         parts();
@@ -217,7 +217,7 @@ public final class RunTest extends Check {
         });
     }
 
-    /** No tables are known whose run opens and shuts more. */
+    /** No tables are known whose run opens and shuts more; found by trying, and so is how much, 122. */
     private static final String LONGEST = "1f;njdgccngbphili;hknplcbgjfaiod";
 
     /** Opened by the next number, shut the latest first, under the same nature, and nothing stays open. */
