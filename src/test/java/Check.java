@@ -39,7 +39,12 @@ abstract class Check {
 
     /** A test of its own for a sentence of the document. */
     static void sentence(int promise, String words, Runnable test) {
-        about = "promise " + promise + " (" + words + "): ";
+        sentence("promise " + promise, words, test);
+    }
+
+    /** The same for a sentence that is told elsewhere. */
+    static void sentence(String where, String words, Runnable test) {
+        about = where + " (" + words + "): ";
         sentences++;
         toldOfIt = 0;
         int before = asked;
